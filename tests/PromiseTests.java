@@ -96,6 +96,8 @@ public final class PromiseTests {
         facts("power as its load", x, 1, 1, 1, 1, 1, -1, -1, 0, 1, 0, 0);
         due("conjure(2, 1, 1)", 2, () -> x.conjure(2, 1, 1));
         facts("power below its load", x, 2, 2, 1, 0, 0, -1, -1, 0, 0, 0, 0);
+        counts("a spell of 1 stays beside one that ended", x, 0, 3, 2, 2, 0, 201, 0, 21);
+        due("first(1) of a power of 1", 1, () -> x.first(1));
         int[][] bad = {{0, 1, 1}, {21, 1, 1}, {-1, 1, 1}, {1, 0, 1}, {1, 61, 1}, {1, -9, 1}, {1, 1, 0}, {1, 1, 201},
             {1, 1, Integer.MIN_VALUE}, {Integer.MAX_VALUE, 1, 1}};
         TowerDown full = full();
@@ -172,6 +174,15 @@ public final class PromiseTests {
         facts("the spell ended", z, 0, 1, 60, 0, 0, -1, -1, 0, 0, 0, 0);
         facts("the other one holds", z, 2, 9, 60, 1, 0, 1, -1, 0, 9, 0, 0);
         facts("nothing holds", z, 3, 1, 60, 0, 0, -1, -1, 0, 0, 0, 0);
+
+        TowerDown s = new TowerDown();
+        s.conjure(1, 9, 200);
+        s.conjure(1, 5, 200);
+        s.hang(6, 60, 0, 1);
+        s.hang(4, 60, 0, 1);
+        counts("each bears 5", s, 0, 4, 4, 2, 0, 400, 0, 12);
+        s.hang(2, 60, 0, 1);
+        counts("second holds alone tear, the first ones behind them", s, 0, 5, 2, 2, 0, 400, 0, 2);
 
         TowerDown r = rounds();
         counts("a second round by new loads", r, 0, 4, 2, 2, 0, 400, 0, 2);
@@ -251,6 +262,7 @@ public final class PromiseTests {
         refused("renew(-1, 9)", INDEX, x, () -> x.renew(-1, 9));
         x.prop(0, 60);
         due("renew(0, 1) with a load of 0", 200, () -> x.renew(0, 1));
+        due("renew(0, 7) of a power of 1", 1, () -> x.renew(0, 7));
     }
 
     private static void promise6() {
@@ -544,6 +556,15 @@ public final class PromiseTests {
             refused("advise(1, " + bad + ")", ARGUMENT, x, () -> x.advise(1, bad));
         }
         due("advise(1, 1) of an empty sky", -1, () -> new TowerDown().advise(1, 1));
+        TowerDown w = new TowerDown();
+        w.conjure(20, 60, 122);
+        w.conjure(20, 60, 122);
+        w.hang(19, 60, 1, -1);
+        due("advise(60, 60)", 1, () -> w.advise(60, 60));
+        due("advise(37, 60)", 1, () -> w.advise(37, 60));
+        due("advise(36, 60)", 0, () -> w.advise(36, 60));
+        due("advise(18, 60): a load as the power of 2", 0, () -> w.advise(18, 60));
+        due("advise(17, 60)", -1, () -> w.advise(17, 60));
 
         TowerDown y = new TowerDown();
         y.conjure(4, 10, 8);
@@ -568,6 +589,9 @@ public final class PromiseTests {
     private static void promise18() {
         TowerDown x = small();
         due("mean()", 34.0 / 4, x::mean);
+        TowerDown y = new TowerDown();
+        y.conjure(7, 1, 9);
+        due("mean() of one", 7.0, y::mean);
         x.prop(3, 1);
         due("mean() of loads of 2, 7, 5, 17", 31.0 / 4, x::mean);
         x.conjure(1, 1, 200);

@@ -415,7 +415,7 @@ public final class TowerDown {
         }
 
         private void bear(int stone, int share) {
-            if (has(stone)) {
+            if (stone >= 0 && stone < hung) {
                 pull[stone] += share;
             }
         }
@@ -437,7 +437,7 @@ public final class TowerDown {
         }
 
         private void endSpell(int stone) {
-            if (has(stone)) {
+            if (stone >= 0 && stone < hung) {
                 power[stone] = 0;
                 stale = true;
             }
