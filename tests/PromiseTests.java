@@ -439,6 +439,9 @@ public final class PromiseTests {
         counts("16 days later", x, 16, 6, 5, 2, 2, 29, 3, 17);
         x.pass(1);
         counts("17 days later", x, 17, 6, 4, 1, 1, 26, 2, 16);
+        x.prop(0, 7);
+        counts("a prop of the first one", x, 17, 6, 4, 1, 1, 26, 9, 9);
+        refused("prop(5, 0) of one that fell since", STATE, x, () -> x.prop(5, 0));
         for (int what : new int[] {-1, 8, Integer.MAX_VALUE, Integer.MIN_VALUE}) {
             refused("count(" + what + ")", INDEX, x, () -> x.count(what));
         }
