@@ -8,8 +8,9 @@ import java.util.Map;
  * at each question and copies whole skies.
  */
 public final class ModelTests {
-    private static final int RUNS = 80;
-    private static final int CALLS = 512;
+    private static final int RUNS = 160;
+    // A digest is asked behind each of them, and nothing is promised of an object behind its 512th call.
+    private static final int CALLS = 256;
 
     private static final class Stone {
         int weight;
