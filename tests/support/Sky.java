@@ -34,7 +34,7 @@ final class Sky {
         }
     }
 
-    private static void compare(String call, Object want, Object got) {
+    static void compare(String call, Object want, Object got) {
         if (!want.equals(got)) {
             wrong++;
             System.out.println("\"" + sentence + "\": " + call + " answered " + got + ", due is " + want);

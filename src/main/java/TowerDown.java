@@ -230,7 +230,7 @@ public final class TowerDown {
         for (int stone = 0; stone < sky.hung; stone++) {
             // A fallen stone has no prop to change, and one of 60 stays as it is: neither saves any.
             if (sky.isHanging(stone) && sky.prop[stone] < MAX_PROP) {
-                int left = leftWithMore(stone, more, days);
+                int left = leftWith(stone, Math.min(MAX_PROP, sky.prop[stone] + more), days);
                 if (left > most) {
                     most = left;
                     best = stone;
@@ -288,9 +288,9 @@ public final class TowerDown {
         }
     }
 
-    private int leftWithMore(int stone, int more, int days) {
+    private int leftWith(int stone, int prop, int days) {
         trial.copyFrom(sky);
-        trial.setProp(stone, Math.min(MAX_PROP, sky.prop[stone] + more));
+        trial.setProp(stone, prop);
         trial.giveWay();
         trial.liveDays(days);
         return trial.hanging;
